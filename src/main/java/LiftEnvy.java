@@ -599,7 +599,6 @@ public final class LiftEnvy {
         /** Whether the tape is right; if not, place and fault say where it is not, and how. */
         boolean tellsHouse(House told) {
             place = 0;
-            fault = 0;
             if (!tellsLaw(told)) {
                 return false;
             }
@@ -721,7 +720,8 @@ public final class LiftEnvy {
         int rider = NOBODY;
         int brought;
         int step;
-        // for whom the car goes: kept, since it is the same until somebody changes
+        // for whom the car goes: kept, since it is the same until one is BROUGHT or changes;
+        // it means nothing while somebody rides
         private int goal = UNKNOWN;
 
         void begin(int newTop, int newCar) {
@@ -847,7 +847,6 @@ public final class LiftEnvy {
                 return;
             }
             rider = who;
-            goal = UNKNOWN;
         }
 
         private void carry() {

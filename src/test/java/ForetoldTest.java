@@ -184,6 +184,10 @@ public final class ForetoldTest {
         // 0 hides, so that 1 is BROUGHT instead of him, in 2 STEPS; 2 need not
         LiftEnvy x = Due.housed("f9,0;c0,3,5,0;c0,0,1,0;c9,9,4,0;");
         Due.is("fewest in the set", x.hide(1), 1);
+        // 20 STEPS each: four are BROUGHT in 80; that a fifth is on his way then is as good
+        x = Due.housed("f9,9;v0,9,0,0;e0,9,5,9;v0,9,3,0;v0,9,2,3;e0,9,7,3;c0,9,3,1;");
+        Due.is("within 99", x.hide(0), 4);
+        Due.is("the last who is BROUGHT", x.hide(1), 0);
         x = Due.housed("f1,0;c0,0,3,0;c0,0,3,0;");
         Due.is("one of two must hide: one is BROUGHT", x.hide(0), 1);
         Due.is("the least bits", x.hide(1), 1);

@@ -27,12 +27,14 @@ public final class RowsTest {
         Due.is("row(1, 0, -1)", x.row(1, 0, -1), SIZE);
         Due.is("row(1, 0, LOW)", x.row(1, 0, LOW), SIZE);
         Due.is("count(0) as before", x.count(0), 2);
+        x.set(7, 0, 3);
         x.set(7, 39, 5);
         Due.is("row(7, 2, -1)", x.row(7, 2, -1), SIZE);
         x.row(6, 2, 40);
         x.copy(7, 39, 6, 0, 1);
         x.row(7, 2, 40);
-        isItem("an item of a new row", x, 7, 39, 0);
+        isItem("the first item of a new row", x, 7, 0, 0);
+        isItem("the last item of a new row", x, 7, 39, 0);
         isItem("an item of the old row", x, 6, 0, 5);
     }
 
