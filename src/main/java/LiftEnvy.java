@@ -788,11 +788,11 @@ public final class LiftEnvy {
         }
 
         int minding(int one, int other) {
-            int more = Math.max(shows[other] - shows[one], 0);
+            int more = shows[other] > shows[one] ? shows[other] - shows[one] : 0;
             switch (kind[one]) {
                 case CLERK: return more;
                 case VAIN: return 2 * more;
-                case MEEK: return Math.max(more - temper[one], 0);
+                case MEEK: return more > temper[one] ? more - temper[one] : 0;
                 case HEIR:
                     if (wants[one] == wants[other]) {
                         return SAME_WANT;
