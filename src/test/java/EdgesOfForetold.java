@@ -314,6 +314,16 @@ final class EdgesOfForetold {
     }
 
     @Says(promise = 21, text = "so that within 99 STEPS most are BROUGHT")
+    static void hideSeveralWithinExactly99() {
+        LiftEnvy x = Due.housed("f9,0;v9,0,5,9;e9,0,0,2;m9,1,1,4;c9,0,2,5;c9,0,4,8;e9,0,3,0;");
+        Due.is("hide(0), five in 99", x.hide(0), 5);
+        Due.is("hide(1), three hide", x.hide(1), 25);
+        x = Due.housed("f9,3;c9,0,7,9;e9,0,1,1;h9,0,7,1;m9,0,2,8;m9,0,1,4;e9,9,6,4;");
+        Due.is("hide(0), six in 99", x.hide(0), 6);
+        Due.is("hide(1), three hide", x.hide(1), 21);
+    }
+
+    @Says(promise = 21, text = "so that within 99 STEPS most are BROUGHT")
     static void hideThatMoreAreBroughtThoughLater() {
         // as it is, one is BROUGHT in 3 STEPS; if the first one hides, two are, in 6
         LiftEnvy x = Due.housed("f1,0;m0,1,5,1;v1,0,5,1;c0,1,2,1;");
